@@ -17,8 +17,7 @@ public final class TermMarks {
     private final State state = new State();
     private final State trial = new State();
     private final History history = new History();
-    private final Text text = new Text();
-    private final Loader loader = new Loader(text, trial);
+    private final Loader loader = new Loader();
     private final Reading reading = new Reading();
     private final int[] asked = new int[Terms.LONGEST];
 
@@ -150,28 +149,27 @@ public final class TermMarks {
         if (character < 1 || character > LAST_CHARACTER) {
             return INVALID_ARGUMENT;
         }
-        if (text.length() >= Text.ROOM) {
+        if (loader.text.length() >= Text.ROOM) {
             return CAPACITY_EXCEEDED;
         }
-        text.add(character);
-        return text.length();
+        loader.text.add(character);
+        return loader.text.length();
     }
 
     public int clearText() {
-        int previous = text.length();
-        text.empty();
+        int previous = loader.text.length();
+        loader.text.empty();
         return previous;
     }
 
     public int load() {
-        trial.copyFrom(state);
-        int answer = loader.read();
+        int answer = loader.read(state);
         if (answer < 0) {
             return answer;
         }
         history.keep(state);
-        state.copyFrom(trial);
-        text.empty();
+        state.copyFrom(loader.state);
+        loader.text.empty();
         return answer;
     }
 
@@ -188,7 +186,7 @@ public final class TermMarks {
             case 6: return state.words.formCount();
             case 7: return state.takenCount();
             case 8: return history.size();
-            case 9: return text.length();
+            case 9: return loader.text.length();
             default: return INVALID_ARGUMENT;
         }
     }
@@ -649,9 +647,9 @@ public final class TermMarks {
         void copyFrom(Terms other) {
             for (int term = 0; term < ROOM; term++) {
                 System.arraycopy(other.words[term], 0, words[term], 0, LONGEST);
+                lengths[term] = other.lengths[term];
+                quiet[term] = other.quiet[term];
             }
-            System.arraycopy(other.lengths, 0, lengths, 0, ROOM);
-            System.arraycopy(other.quiet, 0, quiet, 0, ROOM);
             size = other.size;
         }
     }
@@ -855,25 +853,22 @@ public final class TermMarks {
     }
 
     /**
-     * Reads the text token by token and carries its items out on a state. A method that answers
-     * false stops with the token that is not allowed as the present one.
+     * Reads its text token by token and carries the items out on a state of its own, so that an
+     * error leaves nothing behind. A method that answers false stops with the token that is not
+     * allowed as the present one.
      */
     private static final class Loader {
         private static final int FIRST_ERROR = -1000;
 
-        private final Text text;
-        private final State state;
+        private final Text text = new Text();
+        private final State state = new State();
         private final int[] row = new int[Terms.LONGEST];
         private int start = 0;
         private int end = 0;
 
-        Loader(Text text, State state) {
-            this.text = text;
-            this.state = state;
-        }
-
-        /** Returns the number of items, or -1000 minus the error position. */
-        int read() {
+        /** Begins with a copy of the state; returns the number of items, or -1000 minus the error position. */
+        int read(State before) {
+            state.copyFrom(before);
             end = 0;
             step();
             for (int items = 0; items <= Text.ROOM; items++) {

@@ -118,11 +118,13 @@ public final class ChaptersTest {
         CHECK.due("the base stays", x.base(26), 27);
         CHECK.due("replace of what is nowhere", x.replace(27, 0), 0);
         CHECK.due("replace is an action also then", x.count(8), 5);
+        x.insert(4, 0, 20);
+        x.delete(4, 0, 0);
+        CHECK.due("replace of what was deleted", x.replace(20, 21), 0);
         CHECK.due("restore(0)", x.restore(0), 6);
         row("the snapshot stays", x, 0, 27, 26, 27);
-        x.undo();
-        x.undo();
-        CHECK.due("undo of a replace", x.undo(), 2);
+        CHECK.due("replace of cat once more", x.replace(27, 28), 3);
+        CHECK.due("undo of a replace", x.undo(), 4);
         row("undo of a replace", x, 0, 27, 26, 27);
     }
 

@@ -181,6 +181,8 @@ public final class LookingTest {
         CHECK.due("firstUse(max, min)", x.firstUse(Integer.MAX_VALUE, Integer.MIN_VALUE), BAD);
         x.removeTerm(0);
         CHECK.due("firstUse(0, 2) when one is gone", x.firstUse(0, 2), 2);
+        CHECK.due("place(5, 0, 3) when one is gone", x.place(5, 0, 3), 0);
+        CHECK.due("place(2, 2, 3) when one is gone", x.place(2, 2, 3), 1);
     }
 
     private static void marks() {

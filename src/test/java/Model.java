@@ -155,6 +155,11 @@ final class Model {
         return in(term, 0, now.terms.size() - 1);
     }
 
+    /** The number of words of a chapter, 0 if there is no such chapter. */
+    int length(int chapter) {
+        return in(chapter, 0, 5) ? now.chapters.get(chapter).size() : 0;
+    }
+
     int insert(int chapter, int place, int word) {
         if (!in(chapter, 0, 5) || !in(place, 0, now.chapters.get(chapter).size()) || !now.word(word)) {
             return BAD;

@@ -10,12 +10,15 @@ public final class RandomTest {
     private static long seed = 1;
     private static int wrong = 0;
     private static int alphabet = 3;
+    /** One of so many words in texts is longer than a letter. */
+    private static int rareness = 6;
 
     public static void main(String[] args) {
         int calls = 0;
         for (int run = 0; run < RUNS; run++) {
             seed = run * 7919L + 17;
             alphabet = 2 + next(5);
+            rareness = 1 + next(8);
             calls += run(run);
         }
         System.out.println(calls + " calls compared, " + wrong + " answers are not as due");
@@ -73,11 +76,11 @@ public final class RandomTest {
     }
 
     private static int call(TermMarks x, Model model, int run, int kind) {
-        int chapter = number(next(3) == 0 ? 7 : 2);
-        int place = number(next(3) == 0 ? 41 : 8);
+        int chapter = number(next(3) == 0 ? 6 : 2);
+        int place = number(next(6) == 0 ? 41 : model.length(chapter) + 1);
         int word = word();
         int other = word();
-        int term = number(next(2) == 0 ? 13 : 4);
+        int term = number(next(6) == 0 ? 13 : model.count(2) + 1);
         int slot = number(3);
         String call = kind + "(" + chapter + " " + place + " " + word + " " + other + " " + term + " " + slot + ")";
         switch (kind) {
@@ -92,13 +95,14 @@ public final class RandomTest {
             case 9: due(run, call, x.replace(word, other), model.replace(word, other)); break;
             case 10: due(run, call, x.swap(chapter, slot), model.swap(chapter, slot)); break;
             case 11: case 12: case 13: terms(x, model, run, word, other); break;
-            case 14: if (next(3) == 0) due(run, call, x.removeTerm(term), model.removeTerm(term)); break;
+            case 14: if (next(4) == 0) due(run, call, x.removeTerm(term), model.removeTerm(term)); break;
             case 15: due(run, call, x.setQuiet(term, slot), model.setQuiet(term, slot)); break;
             case 16: due(run, call, x.setBase(word, other), model.setBase(word, other)); break;
             case 17: due(run, call, x.setBase(word, word), model.setBase(word, word)); break;
             case 18: due(run, call, x.take(slot), model.take(slot)); break;
             case 19: due(run, call, x.restore(slot), model.restore(slot)); break;
-            case 20: case 21: due(run, call, x.undo(), model.undo()); break;
+            case 20: due(run, call, x.undo(), model.undo()); break;
+            case 21: due(run, call, x.insert(0, 0, word), model.insert(0, 0, word)); break;
             case 22: due(run, call, x.append(slot + 32), model.append(slot + 32)); break;
             case 23: due(run, call, x.load(), model.load()); break;
             default: looks(x, model, run, kind - 24, new int[] {chapter, place, word, term, slot});
@@ -219,7 +223,7 @@ public final class RandomTest {
     private static void words(StringBuilder text, int count) {
         for (int i = 0; i < count; i++) {
             text.append(i == 0 ? "" : " ");
-            int length = next(6) > 0 ? 1 : 1 + next(4);
+            int length = next(rareness) > 0 ? 1 : 1 + next(4);
             for (int letter = 0; letter < length; letter++) {
                 text.append((char) ('a' + next(alphabet)));
             }

@@ -9,6 +9,7 @@ public final class SnapshotsTest {
         wrongSlots();
         onlyChapters();
         undoEach();
+        undoSnapshots();
         undoWords();
         history();
         CHECK.end();
@@ -98,6 +99,27 @@ public final class SnapshotsTest {
             case 9: x.restore(0); break;
             default: x.take(0); break;
         }
+    }
+
+    private static void undoSnapshots() {
+        TermMarks x = Check.loaded("ch0:a;");
+        x.take(0);
+        x.take(1);
+        Check.load(x, "ch0:b c;");
+        CHECK.due("snapshots after a load", x.count(7), 2);
+        x.take(0);
+        CHECK.due("undo() of a take in place of another", x.undo(), 4);
+        CHECK.due("restore(0) of the first one", x.restore(0), 1);
+        CHECK.due("place(0, 0, 0)", x.place(0, 0, 0), 0);
+        x.undo();
+        x.undo();
+        CHECK.due("restore(1) after undos", x.restore(1), 1);
+        x.undo();
+        CHECK.due("undo() of the second take", x.undo(), 2);
+        CHECK.due("restore(1) of an empty slot", x.restore(1), ILLEGAL);
+        CHECK.due("undo() of the first take", x.undo(), 1);
+        CHECK.due("restore(0) of an empty slot", x.restore(0), ILLEGAL);
+        CHECK.due("snapshots", x.count(7), 0);
     }
 
     private static void undoWords() {

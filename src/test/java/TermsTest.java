@@ -99,7 +99,12 @@ public final class TermsTest {
         CHECK.due("removeTerm(0)", x.removeTerm(0), 2);
         CHECK.due("undo()", x.undo(), 4);
         CHECK.due("term(0, 1) after undo", x.term(0, 1), 0);
+        x.setQuiet(2, 1);
         x.removeTerm(2);
+        CHECK.due("addTerm of the last one again", x.addTerm(6, 7, 8, 9), 2);
+        CHECK.due("it is not quiet again", x.term(2, 5), 0);
+        x.removeTerm(2);
+        CHECK.due("gain of what went", x.gain(6, 7, 8, 9), 100);
         x.removeTerm(1);
         CHECK.due("removeTerm of the last", x.removeTerm(0), 0);
         CHECK.due("removeTerm of none", x.removeTerm(0), BAD);
@@ -171,6 +176,7 @@ public final class TermsTest {
         CHECK.due("base(1)", x.base(1), 1);
         CHECK.due("occurrences of d", x.term(2, 7), 1);
         CHECK.due("setBase(0, 0)", x.setBase(0, 0), 3);
+        x.removeTerm(1);
         x.removeTerm(1);
         CHECK.due("setBase(1, 0)", x.setBase(1, 0), 1);
         CHECK.due("readings of a c", x.term(0, 6), 2);

@@ -176,6 +176,17 @@ public final class TextTest {
         error("ch1:b;ch0:a;x", 12);
         error("ch1:a" + (char) 255 + ";", 5);
         error("ch1:a" + (char) 1 + ";", 5);
+        error("xh0:;", 0);
+        error("germ b;", 0);
+        error("worm b=c;", 0);
+        // A keyword begins no item as long as the one before it is not ended.
+        error("ch0:a ch1:b;", 8);
+        error("term b c d e term f;", 13);
+        error("term b=term c;", 6);
+        error("form b term c;", 7);
+        error("form b form c=d;", 7);
+        error("form b=c term d;", 9);
+        error("form ;term b;", 5);
         error("{", 0);
         error("`", 0);
     }
@@ -192,6 +203,10 @@ public final class TextTest {
         CHECK.due("the 61st word in a term", Check.load(x, "term a zz;"), -1007);
         CHECK.due("the 61st word in a form", Check.load(x, "form zz=a;"), -1005);
         CHECK.due("the 61st word in a form's base", Check.load(x, "form a=zz;"), -1007);
+        CHECK.due("a keyword as the 61st word of a chapter", Check.load(x, "ch2:a term b;"), -1006);
+        CHECK.due("a keyword as the 61st word of a term", Check.load(x, "term a term b;"), -1007);
+        CHECK.due("a keyword as the 61st word of a form", Check.load(x, "form term b;"), -1005);
+        CHECK.due("a keyword as the 61st word of a form's base", Check.load(x, "form a=term b;"), -1007);
         CHECK.due("words then", x.count(0), 60);
         CHECK.due("the 60 words can be used", Check.load(x, "ch2:aa ba bi;"), 1);
         x.undo();
