@@ -96,6 +96,10 @@ public final class LookingTest {
             }
         }
         CHECK.due("place(5, 1, 1)", x.place(5, 1, 1), NONE);
+        TermMarks y = Check.loaded("term a;term b;ch0:a b;");
+        CHECK.due("place(0, 1, 3)", y.place(0, 1, 3), 1);
+        y.setQuiet(1, 1);
+        CHECK.due("place(0, 1, 3) of a term that became quiet", y.place(0, 1, 3), 0);
     }
 
     private static void placesWrong() {

@@ -180,5 +180,8 @@ public final class TermsTest {
         x.removeTerm(1);
         CHECK.due("setBase(1, 0)", x.setBase(1, 0), 1);
         CHECK.due("readings of a c", x.term(0, 6), 2);
+        TermMarks y = Check.loaded("term a;term b;");
+        y.removeTerm(1);
+        CHECK.due("setBase(0, 1) when the other one is gone", y.setBase(0, 1), 0);
     }
 }
