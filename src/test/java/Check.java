@@ -47,27 +47,46 @@ final class Check {
         return x;
     }
 
-    /** All that the calls that look tell of an object but for its text and its history, as one string. */
+    /**
+     * All that the calls that look tell of an object but for its text and its history, as one string.
+     * Each call is made once, because nothing is promised of an object after 512 calls.
+     */
     static String all(TermMarks x) {
         StringBuilder seen = new StringBuilder();
-        for (int what = 0; what <= 7; what++) {
-            seen.append(x.count(what)).append(what == 7 ? "\n" : " ");
+        int[] counts = new int[8];
+        for (int what = 0; what < counts.length; what++) {
+            counts[what] = x.count(what);
+            seen.append(counts[what]).append(' ');
         }
-        for (int word = 0; word < x.count(0); word++) {
-            for (int index = 0; x.letter(word, index) != TermMarks.NONE; index++) {
-                seen.append((char) x.letter(word, index));
+        for (int word = 0; word < counts[0]; word++) {
+            int letter = x.letter(word, 0);
+            for (int index = 1; letter != TermMarks.NONE; index++) {
+                seen.append((char) letter);
+                letter = x.letter(word, index);
             }
             seen.append('>').append(x.base(word)).append(' ');
         }
         for (int chapter = 0; chapter < 6; chapter++) {
             seen.append("\nch").append(chapter);
-            for (int place = 0; x.place(chapter, place, 0) != TermMarks.NONE; place++) {
-                for (int what = 0; what < 4; what++) {
-                    seen.append(what == 0 ? ' ' : ',').append(x.place(chapter, place, what));
+            int word = x.place(chapter, 0, 0);
+            for (int place = 1; word != TermMarks.NONE; place++) {
+                seen.append(' ').append(word);
+                for (int what = 1; what < 4; what++) {
+                    seen.append(',').append(x.place(chapter, place - 1, what));
                 }
+                word = x.place(chapter, place, 0);
             }
         }
-        for (int term = 0; term < x.count(2); term++) {
+        terms(x, counts[2], seen);
+        for (int mark = 0; mark < counts[4]; mark++) {
+            seen.append("\nmark ").append(x.mark(mark, 0)).append(' ').append(x.mark(mark, 1))
+                    .append(' ').append(x.mark(mark, 2));
+        }
+        return seen.toString();
+    }
+
+    private static void terms(TermMarks x, int count, StringBuilder seen) {
+        for (int term = 0; term < count; term++) {
             seen.append("\nterm").append(term);
             for (int what = 0; what <= 8; what++) {
                 seen.append(' ').append(x.term(term, what));
@@ -76,11 +95,6 @@ final class Check {
                 seen.append(' ').append(x.firstUse(term, chapter));
             }
         }
-        for (int mark = 0; mark < x.count(4); mark++) {
-            seen.append("\nmark ").append(x.mark(mark, 0)).append(' ').append(x.mark(mark, 1))
-                    .append(' ').append(x.mark(mark, 2));
-        }
-        return seen.toString();
     }
 
     /** All of an object, with its text and its history. */

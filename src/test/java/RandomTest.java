@@ -1,6 +1,7 @@
 /** Long runs of calls, the same ones each time, whose answers are compared with the model's. */
 public final class RandomTest {
-    private static final int RUNS = 600;
+    private static final int RUNS = 1200;
+    /** Behind so many calls of an object, nothing is promised. */
     private static final int CALLS = 512;
     private static final int[] EDGES = {-1, -2, -99, 40, 41, 60, 140, 255, 256, Integer.MAX_VALUE, Integer.MIN_VALUE};
     private static final String[] SCRAPS = {
@@ -8,20 +9,24 @@ public final class RandomTest {
         "A", ",", ";ch1:", ";term "};
 
     private static long seed = 1;
+    /** Calls of the present run. */
+    private static int calls = 0;
     private static int wrong = 0;
     private static int alphabet = 3;
     /** One of so many words in texts is longer than a letter. */
     private static int rareness = 6;
 
     public static void main(String[] args) {
-        int calls = 0;
-        for (int run = 0; run < RUNS; run++) {
+        int all = 0;
+        for (int run = 0; run < RUNS && wrong < 20; run++) {
             seed = run * 7919L + 17;
             alphabet = 2 + next(5);
             rareness = 1 + next(8);
-            calls += run(run);
+            calls = 0;
+            run(run);
+            all += calls;
         }
-        System.out.println(calls + " calls compared, " + wrong + " answers are not as due");
+        System.out.println(all + " calls compared, " + wrong + " answers are not as due");
         if (wrong != 0) {
             System.exit(1);
         }
@@ -32,38 +37,43 @@ public final class RandomTest {
         return (int) ((seed >>> 33) % bound);
     }
 
-    private static int run(int run) {
+    /** Calls of all kinds, and then calls that look at what they have left. */
+    private static void run(int run) {
         TermMarks x = new TermMarks();
         Model model = new Model();
-        int calls = 0;
-        while (calls < CALLS) {
+        int changing = 100 + next(300);
+        while (calls < changing) {
             if (next(12) == 0) {
-                calls += typed(x, model, run, text(), calls);
+                typed(x, model, run, text());
             } else {
-                calls += call(x, model, run, next(34));
-            }
-            if (wrong > 20) {
-                break;
+                call(x, model, run, next(34));
             }
         }
-        look(x, model, run);
-        return calls;
+        while (calls < CALLS) {
+            int chapter = next(6);
+            int place = next(model.length(chapter) + 2);
+            int word = next(model.count(0) + 2);
+            int term = next(model.count(2) + 2);
+            looks(x, model, run, next(10), new int[] {chapter, place, word, term, next(4)});
+        }
     }
 
+    /** Compares the answers of one call. */
     private static void due(int run, String call, int got, int want) {
+        calls++;
         if (got != want) {
             wrong++;
-            System.out.println("run " + run + ": " + call + " answered " + got + ", due is " + want);
+            System.out.println("run " + run + ", call " + calls + ": " + call + " answered " + got
+                    + ", due is " + want);
         }
     }
 
-    private static int typed(TermMarks x, Model model, int run, String text, int calls) {
+    private static void typed(TermMarks x, Model model, int run, String text) {
         due(run, "clearText()", x.clearText(), model.clearText());
-        for (int i = 0; i < text.length(); i++) {
+        for (int i = 0; i < text.length() && calls < CALLS - 1; i++) {
             due(run, "append", x.append(text.charAt(i)), model.append(text.charAt(i)));
         }
         due(run, "load() of " + text, x.load(), model.load());
-        return text.length() + 2;
     }
 
     /** A number from 0 on, sometimes another one. */
@@ -75,7 +85,7 @@ public final class RandomTest {
         return next(9) == 0 ? number(60) : number(alphabet);
     }
 
-    private static int call(TermMarks x, Model model, int run, int kind) {
+    private static void call(TermMarks x, Model model, int run, int kind) {
         int chapter = number(next(3) == 0 ? 6 : 2);
         int place = number(next(6) == 0 ? 41 : model.length(chapter) + 1);
         int word = word();
@@ -107,7 +117,6 @@ public final class RandomTest {
             case 23: due(run, call, x.load(), model.load()); break;
             default: looks(x, model, run, kind - 24, new int[] {chapter, place, word, term, slot});
         }
-        return 1;
     }
 
     private static void terms(TermMarks x, Model model, int run, int first, int second) {
@@ -135,40 +144,6 @@ public final class RandomTest {
             case 8: due(run, "nested" + call, x.nested(n[3], what), model.nested(n[3], what)); break;
             default: due(run, "greediest" + call, x.greediest(), model.greediest()); break;
         }
-    }
-
-    /** Compares all that can be seen at the end of a run. */
-    private static void look(TermMarks x, Model model, int run) {
-        for (int what = -1; what <= 10; what++) {
-            due(run, "last count " + what, x.count(what), model.count(what));
-        }
-        for (int a = 0; a < 62; a++) {
-            due(run, "last base " + a, x.base(a), model.base(a));
-            for (int b = 0; b < 9; b++) {
-                due(run, "last letter " + a + " " + b, x.letter(a, b), model.letter(a, b));
-            }
-        }
-        for (int a = 0; a < 6; a++) {
-            for (int b = 0; b < 41; b++) {
-                for (int c = 0; c < 13; c++) {
-                    due(run, "last place " + a + " " + b + " " + c, x.place(a, b, c), model.place(a, b, c));
-                    due(run, "last why " + a + " " + b + " " + c, x.why(a, b, c), model.why(a, b, c));
-                }
-            }
-        }
-        for (int a = 0; a < 13; a++) {
-            for (int b = 0; b < 13; b++) {
-                due(run, "last term " + a + " " + b, x.term(a, b), model.term(a, b));
-                due(run, "last firstUse " + a + " " + b, x.firstUse(a, b), model.firstUse(a, b));
-                due(run, "last nested " + a + " " + b, x.nested(a, b), model.nested(a, b));
-            }
-        }
-        for (int a = 0; a < 73; a++) {
-            for (int b = 0; b < 4; b++) {
-                due(run, "last mark " + a + " " + b, x.mark(a, b), model.mark(a, b));
-            }
-        }
-        due(run, "last greediest", x.greediest(), model.greediest());
     }
 
     /** A text of items, sometimes with something wrong in it. */

@@ -72,17 +72,21 @@ public final class SnapshotsTest {
     }
 
     private static void undoEach() {
+        String before = Check.whole(undoSample());
+        for (int action = 0; action < 11; action++) {
+            TermMarks x = undoSample();
+            act(x, action);
+            CHECK.due("states after action " + action, x.count(8), 4);
+            CHECK.due("undo() of action " + action, x.undo(), 3);
+            CHECK.same("undo of action " + action, Check.whole(x), before);
+        }
+    }
+
+    private static TermMarks undoSample() {
         TermMarks x = Check.loaded("ch0:a b a;ch3:c b;term a b;term c;form d=e;");
         x.take(0);
         x.insert(3, 0, 0);
-        for (int action = 0; action < 11; action++) {
-            String before = Check.whole(x);
-            int states = x.count(8);
-            act(x, action);
-            CHECK.due("states after action " + action, x.count(8), states + 1);
-            CHECK.due("undo() of action " + action, x.undo(), states);
-            CHECK.same("undo of action " + action, Check.whole(x), before);
-        }
+        return x;
     }
 
     private static void act(TermMarks x, int action) {
