@@ -26,6 +26,7 @@ public final class FaceTest {
     public static void main(String[] args) throws IOException {
         constants();
         face();
+        sizes();
         source();
         newObject();
         CHECK.end();
@@ -83,6 +84,23 @@ public final class FaceTest {
         for (Field field : type.getDeclaredFields()) {
             if (Modifier.isStatic(field.getModifiers())) {
                 CHECK.due(field + " is final", Modifier.isFinal(field.getModifiers()) ? 1 : 0, 1);
+            }
+        }
+    }
+
+    /** The numbers of rule 11, and classes that are neither local nor anonymous. */
+    private static void sizes() {
+        Class<?>[] classes = TermMarks.class.getNestMembers();
+        CHECK.due("classes are at most 12", classes.length <= 12 ? 1 : 0, 1);
+        for (Class<?> type : classes) {
+            CHECK.due(type + " is a member", type == TermMarks.class || type.isMemberClass() ? 1 : 0, 1);
+            int fields = 0;
+            for (Field field : type.getDeclaredFields()) {
+                fields += Modifier.isStatic(field.getModifiers()) ? 0 : 1;
+            }
+            CHECK.due(type + " has at most 20 fields", fields <= 20 ? 1 : 0, 1);
+            for (Method method : type.getDeclaredMethods()) {
+                CHECK.due(method + " takes at most seven parameters", method.getParameterCount() <= 7 ? 1 : 0, 1);
             }
         }
     }

@@ -104,6 +104,10 @@ public final class Promises06To09Test {
         S.says("6: a term has its words, not their bases", x -> x.load("form b=a;").due(0, "addTerm", 1, 0, 1, -1)
                 .term(0, 1, 0, 1));
         S.isAction("6: this is an action", Promises06To09Test::some, x -> x.due(2, "addTerm", 0, 1, 2, -1));
+        S.changesNothing("6: an addTerm with no word changes nothing", Promises06To09Test::some, x -> x
+                .due(BAD, "addTerm", 26, -1, -1, -1).due(BAD, "addTerm", 0, 26, -1, -1)
+                .due(BAD, "addTerm", 0, 1, 26, -1).due(BAD, "addTerm", 0, 1, 2, 26)
+                .due(BAD, "addTerm", -1, -1, -1, -1));
         S.changesNothing("6: a refused addTerm changes nothing", x -> x.terms(12), x -> x
                 .due(BAD, "addTerm", 0, -1, 1, -1).due(ILLEGAL, "addTerm", 0, -1, -1, -1)
                 .due(FULL, "addTerm", 12, -1, -1, -1));

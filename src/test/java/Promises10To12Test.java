@@ -32,8 +32,8 @@ public final class Promises10To12Test {
                 .due(2, "take", 1).load("ch0:;").due(1, "restore", 0).row(0, 0).due(2, "restore", 1).row(0, 1, 2));
         S.says("Snapshots: a snapshot keeps the chapters, all of them with all words", x -> {
             x.fill(0, 0, 40, 3).load("ch1:a;ch2:b c;ch3:d;ch4:e;ch5:f g;").due(47, "take", 0);
-            x.does("delete", 0, 0, 39).load("ch1:z z;ch2:;ch3:z;ch4:;ch5:z;").due(47, "restore", 0);
-            x.due(3, "place", 0, 39, 0).row(1, 0).row(2, 1, 2).row(3, 3).row(4, 4).row(5, 5, 6);
+            x.does("replace", 3, 9).does("delete", 0, 0, 0).load("ch1:z z;ch2:;ch3:z;ch4:;ch5:z;");
+            x.due(47, "restore", 0).due(3, "place", 0, 39, 0).row(1, 0).row(2, 1, 2).row(3, 3).row(4, 4).row(5, 5, 6);
         });
         S.says("Snapshots: and nothing else; nothing else changes", x -> {
             x.load("ch0:ab b;term ab;").does("take", 0).load("ch0:cd;form b=ab;term cd;").does("setQuiet", 0, 1);
@@ -134,8 +134,9 @@ public final class Promises10To12Test {
             Run twin = x.another();
             some(x);
             some(twin);
-            x.load("ch1:z;ch4:zz;term z;form z=b;").does("setQuiet", 1, 0);
-            x.does("undo").does("undo").same(twin);
+            x.load("ch1:z;ch4:zz;term z;form z=b;").does("setQuiet", 0, 1).does("undo").does("undo");
+            x.due(2, "restore", 1);
+            x.does("undo").due(3, "count", 8).same(twin);
         });
         S.says("Undo: the text does not change", x -> x.load("ch0:a;").type("ch1:b;").due(0, "undo").due(6, "count", 9)
                 .due(1, "load").row(0).row(1, 1));

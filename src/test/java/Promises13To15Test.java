@@ -44,8 +44,8 @@ public final class Promises13To15Test {
         S.says("13: CAPACITY_EXCEEDED if the text already has 140 characters", x -> x.type(" ".repeat(140))
                 .due(FULL, "append", 'a').due(FULL, "append", ' ').due(FULL, "append", 255).due(140, "clearText")
                 .due(1, "append", 'a'));
-        S.says("13: CAPACITY_EXCEEDED does not change the text", x -> x.type("ch0:ab;" + " ".repeat(132) + "x")
-                .due(FULL, "append", ';').due(-1139, "load").due(140, "count", 9));
+        S.says("13: CAPACITY_EXCEEDED does not change the text", x -> x.type("ch0:ab" + " ".repeat(133) + ";")
+                .due(FULL, "append", 'x').due(140, "count", 9).due(1, "load").row(0, 26).spelled(26, "ab"));
         S.says("13: INVALID_ARGUMENT is listed before CAPACITY_EXCEEDED", x -> x.type(" ".repeat(140))
                 .due(BAD, "append", 0).due(BAD, "append", 256).due(BAD, "append", -1));
         S.says("13: append is no action", x -> x.type("ch0:a;").due(0, "count", 8).row(0));
@@ -94,8 +94,9 @@ public final class Promises13To15Test {
 
     private static void items() {
         S.says("Text: a text has at most 140 characters, which are all read", x -> x
-                .load(Texts.words("ch0:", 40, 'a') + ";" + Texts.words("ch1:", 25, 'b') + " ;")
-                .due(65, "count", 1));
+                .load(1, Texts.words("ch0:", 40, 'a') + ";" + " ".repeat(56))
+                .load(2, "ch2:;" + " ".repeat(129) + "ch1:c;")
+                .row(1, 2).due(41, "count", 1));
         S.says("Text: a sequence of items, possibly none", x -> x.load(0, "").load(1, "ch0:;").load(2, "ch0:;ch1:;"));
         S.says("Text: each of which ends with \";\"", x -> x.error(5, "ch0:a").error(6, "term a").error(8, "form a=b")
                 .error(8, "ch0:a ch1:b;").error(6, "term a:").error(0, ";").error(5, "ch0:;;"));

@@ -257,13 +257,15 @@ public final class SectionsTest {
             }
         });
         S.changesNothing("Errors: a call that returns an error code changes nothing, an action",
-                SectionsTest::full, x -> x.due(FULL, "insert", 0, 0, 0).due(BAD, "delete", 0, 1, 0).due(BAD, "replace", 0, 0)
+                SectionsTest::full, x -> x.due(FULL, "insert", 0, 0, 0).due(BAD, "delete", 0, 1, 0)
+                .due(BAD, "replace", 0, 0)
                 .due(BAD, "swap", 0, 6)
                 .due(ILLEGAL, "addTerm", 1, -1, -1, -1).due(BAD, "removeTerm", 1).due(BAD, "setQuiet", 0, 2)
                 .due(ILLEGAL, "setBase", 0, 2).due(BAD, "take", 2).due(ILLEGAL, "restore", 0).due(-1009, "load")
                 .due(BAD, "append", 0));
         S.changesNothing("Errors: a call that returns an error code changes nothing, a look",
-                SectionsTest::full, x -> x.due(BAD, "count", 10).due(BAD, "letter", 26, 0).due(BAD, "base", 26).due(BAD, "place", 6, 0, 0)
+                SectionsTest::full, x -> x.due(BAD, "count", 10).due(BAD, "letter", 26, 0).due(BAD, "base", 26)
+                .due(BAD, "place", 6, 0, 0)
                 .due(BAD, "term", 1, 0).due(BAD, "firstUse", 1, 0).due(BAD, "mark", -1, 0).due(BAD, "why", 1, 0, 0)
                 .due(BAD, "nested", 0, 1).due(ILLEGAL, "gain", 1, -1, -1, -1));
         S.says("Errors: NONE is returned only if no error condition applies", x -> x.due(BAD, "letter", 26, 1)
