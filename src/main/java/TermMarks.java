@@ -875,7 +875,14 @@ public final class TermMarks {
                 if (start >= text.length()) {
                     return items;
                 }
-                boolean fine = isWord("ch") ? readChapter() : isWord("term") ? readTerm() : isWord("form") && readForm();
+                boolean fine;
+                if (isWord("ch")) {
+                    fine = readChapter();
+                } else if (isWord("term")) {
+                    fine = readTerm();
+                } else {
+                    fine = isWord("form") && readForm();
+                }
                 if (!fine) {
                     break;
                 }

@@ -28,6 +28,7 @@ public final class FaceTest {
         face();
         sizes();
         source();
+        methodLengths();
         newObject();
         CHECK.end();
     }
@@ -118,6 +119,26 @@ public final class FaceTest {
                 CHECK.due("the sign at " + i + " of the source", source.charAt(i), 126);
             }
         }
+    }
+
+    /** Rule 11: a method has at most some sixty lines. A method ends with a brace as far in as its beginning. */
+    private static void methodLengths() throws IOException {
+        List<String> lines = Files.readAllLines(Path.of("src/main/java/TermMarks.java"));
+        Pattern head = Pattern.compile("( {4}| {8})\\S.*\\) \\{");
+        int methods = 0;
+        for (int from = 0; from < lines.size(); from++) {
+            Matcher begins = head.matcher(lines.get(from));
+            if (!begins.matches()) {
+                continue;
+            }
+            methods++;
+            int to = from;
+            while (to < lines.size() && !lines.get(to).equals(begins.group(1) + "}")) {
+                to++;
+            }
+            CHECK.due("the method has at most 60 lines:" + lines.get(from), to - from < 60 ? 1 : 0, 1);
+        }
+        CHECK.due("the methods are found", methods > 80 ? 1 : 0, 1);
     }
 
     private static void newObject() {
